@@ -94,6 +94,15 @@ public final class PromisesTest {
         due("4 no act can be undone", x.undo(), false);
         due("4 the latest of many", Calls.tell(x, "rooms 5;"), 1);
         dueHas("4 bare", x, 5, 0, 0, 0, 0, 5, 0, 0, 0, 1, 10, 0, 0, 0, 77);
+        // A long text many times over: nothing of an older one is in the way, and what it told is gone.
+        for (int i = 0; i < 12; i++) {
+            due("4 a long text", Calls.tell(x, "rooms 2;lodger a has 0 1;in a;knock 9;shut 1;rents 0" + "+1".repeat(60) + "+0".repeat(600) + ";"), 6);
+            due("4 its rent", x.purse(1), 60);
+        }
+        due("4 short again", Calls.tell(x, "rooms 2;lodger b has 1 0;in b;"), 3);
+        due("4 no shut room", x.room(1, 0), 0);
+        due("4 no rents", x.purse(1), 1);
+        due("4 no knock", x.odds(0), 100);
         // The bench and the steps told last hold for those who came first in the text.
         x = Calls.of("rooms 2;lodger a has 0 1;lodger b has 1 0;lodger c has 0 1;in a;in b;in c;steps 1;bench 0;steps 2;");
         due("4 two steps: b is out", x.lodger(1, 2), NONE);
@@ -529,6 +538,9 @@ public final class PromisesTest {
         due("24 tells(2, 3)", x.tells(2, 3), NONE);
         due("24 tells(2, -1)", x.tells(2, -1), NONE);
         due("24 not away", x.tells(0, 0), NONE);
+        Calls.tell(x, ROUND);
+        due("24 tells(2, 3) with some left", x.tells(2, 3), NONE);
+        due("24 tells(2, -1) with some left", x.tells(2, -1), NONE);
         due("24 tells(3, 0)", x.tells(3, 0), NONE);
         dueTells("24 the document's five", Calls.of(FIVE), 2, 0, 2, 38);
         x = Calls.of(LEFT_OVER);
@@ -541,6 +553,8 @@ public final class PromisesTest {
         Calls.tell(x, LEFT_OVER.replace("night=0", "night=998"));
         due("24 to night 998 without met", Calls.on(x, Calls.checked(3, 230, 0, 0, 0, 0, 0, 0, 2, 0, 0, 0, 1, 0, 255, 0, 0)), true);
         dueTells("24 not beyond night 999", x, 3, 0, 0, 15);
+        dueTells("24 by night 30", Calls.of(LEFT_OVER.replace("night=0", "night=28")), 3, 30, 2, 10);
+        dueTells("24 not by night 31", Calls.of(LEFT_OVER.replace("night=0", "night=29")), 3, 0, 0, 15);
         x = Calls.of("rooms 2;bench 1;lodger a has 0 1;lodger b has 0 1;lodger c has 0 1;in a;in b;yields step<2;");
         dueTells("24 one step or more", x, 2, 0, 1, 39);
         x = Calls.of("rooms 2;bench 1;lodger a has 0 1;lodger b has 1 0;lodger c has 0 1;in a;in b;yields room=0;");
@@ -626,6 +640,7 @@ public final class PromisesTest {
         due("28 not one more", x.nights(1), NONE);
         due("28 status(2) again", x.status(2), 5);
         due("28 without a lodge", new CuckooLodge().nights(1), NONE);
+        due("28 a lodge of one statement", Calls.of("rooms 2;").nights(1), 0);
         x = Calls.of("rooms 2;lodger a has 0 1;in a;");
         due("28 forty at once", x.nights(40), 40);
     }
@@ -846,6 +861,35 @@ public final class PromisesTest {
         dueImage("35 it goes on", x, 0, 2, 0, 0, 7, 0, 0, 254, 0, 0, 10, 1, 1, 1, 0);
     }
 
+    /** Sixteen rooms, sixteen lodgers, six on the bench: nothing is larger. */
+    private static void largest() {
+        StringBuilder text = new StringBuilder("rooms 16;bench 6;steps 40;knock 100;");
+        for (int i = 0; i < 16; i++) {
+            int first = i < 10 ? i : i - 6;
+            text.append("lodger n").append((char) ('a' + i)).append(" has ").append(first).append(' ').append((first + 1) % 10).append(';');
+        }
+        for (int i = 0; i < 16; i++) text.append("in n").append((char) ('a' + i)).append(';');
+        CuckooLodge x = Calls.of(text + "yields step>0;");
+        dueHas("largest", x, 16, 16, 10, 6, 0, 6, 0, 0, 0, 6, 40);
+        due("largest image", x.image(), 61);
+        due("largest octet", x.octet(60) >= 0 && x.octet(61) == NONE, true);
+        due("largest on", Calls.on(x, Calls.imageOf(x)), true);
+        due("largest most", x.most(65535), 10);
+        // Lodgers 4 to 9 have the same rooms as 10 to 15: of these pairs one closes the ring of two, 9 with 15.
+        due("largest turned", x.turned(65535), 1 << 8 | 1 << 7 | 1 << 6 | 1 << 5 | 1 << 4 | 1);
+        due("largest ways", x.ways(65535 & ~497), 2);
+        due("largest crowd", x.crowd(), 1 << 4 | 1 << 5 | 1 << 10 | 1 << 11);
+        due("largest set", x.most(65536), NONE);
+        due("largest odds", x.odds(NONE), 1600);
+        x = Calls.of(text.toString().replace("in np;", ""));
+        due("largest chain", x.chain(15, NONE), 40);
+        due("largest stepped", x.stepped(15, NONE), 40);
+        due("largest tells", x.tells(15, 2) >= 1, true);
+        due("largest come", x.come(15), 40);
+        due("largest kept", x.has(11), 40);
+        for (int l = 0; l < 16; l++) due("largest chance", x.odds(l) <= 1600, true);
+    }
+
     private static void p36Status() {
         CuckooLodge x = new CuckooLodge();
         x.end(1);
@@ -915,6 +959,7 @@ public final class PromisesTest {
         p34Octet();
         p35On();
         p36Status();
+        largest();
         Calls.close("PromisesTest");
     }
 }
