@@ -245,7 +245,7 @@ public final class CuckooLodge {
             return NONE;
         }
         ahead.copy(now);
-        for (int n = 0; canBeAhead(n); n++) {
+        for (int n = 0; n <= MOST_NIGHTS && now.night + n <= LAST_NIGHT; n++) {
             if (n > 0) {
                 house.passNight(ahead, false);
             }
