@@ -1454,20 +1454,15 @@ public final class CuckooLodge {
             int paid = 0;
             for (int room = 0; room < plan.rooms; room++) {
                 int lodger = s.sleeper[room];
-                if (lodger != NONE) {
-                    paid += rentOf(s, lodger, room);
+                if (lodger != NONE && plan.hasFormula(RENTS)) {
+                    int rent = reckoner.reckon(plan, RENTS, s, lodger, plan.first[lodger] == room ? 1 : 0);
+                    paid += Math.max(0, Math.min(MOST_RENT, rent));
+                } else if (lodger != NONE) {
+                    paid++;
                 }
             }
             s.purse = Math.min(MOST_PURSE, s.purse + paid);
             return paid;
-        }
-
-        private int rentOf(State s, int lodger, int room) {
-            if (!plan.hasFormula(RENTS)) {
-                return 1;
-            }
-            int rent = reckoner.reckon(plan, RENTS, s, lodger, plan.first[lodger] == room ? 1 : 0);
-            return Math.max(0, Math.min(MOST_RENT, rent));
         }
 
         private void endNight(State s) {

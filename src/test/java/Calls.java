@@ -2,6 +2,8 @@
 final class Calls {
     private static int wrong = 0;
     private static int asked = 0;
+    /** What is being tested, ahead of each answer that is not as due. */
+    static String about = "";
 
     private Calls() {
     }
@@ -10,12 +12,16 @@ final class Calls {
         asked++;
         if (got != want) {
             wrong++;
-            System.out.println(call + " answered " + got + ", due is " + want);
+            System.out.println(about + call + " answered " + got + ", due is " + want);
         }
     }
 
     static void due(String call, boolean got, boolean want) {
         due(call, got ? 1 : 0, want ? 1 : 0);
+    }
+
+    static int asked() {
+        return asked;
     }
 
     static void feed(CuckooLodge x, int... bytes) {
@@ -38,6 +44,25 @@ final class Calls {
     static CuckooLodge of(String text) {
         CuckooLodge x = new CuckooLodge();
         due("lodge of <" + text + ">", tell(x, text) > 0, true);
+        return x;
+    }
+
+    /** A text with a FAULT: '@' marks the place and is no part of the text. */
+    static void fault(int kind, String marked) {
+        int place = marked.indexOf('@');
+        String text = marked.substring(0, place) + marked.substring(place + 1);
+        CuckooLodge x = of("rooms 2;lodger old has 0 1;");
+        due("lodge <" + text + ">", tell(x, text), CuckooLodge.NONE);
+        due("fault(0) of <" + marked + ">", x.fault(0), kind);
+        due("fault(1) of <" + marked + ">", x.fault(1), place);
+        due("has(1) behind <" + marked + ">", x.has(1), 1);
+    }
+
+    static CuckooLodge right(int statements, String text) {
+        CuckooLodge x = new CuckooLodge();
+        due("lodge <" + text + ">", tell(x, text), statements);
+        due("fault(0) of <" + text + ">", x.fault(0), 0);
+        due("fault(1) of <" + text + ">", x.fault(1), CuckooLodge.NONE);
         return x;
     }
 

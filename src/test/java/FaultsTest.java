@@ -1,20 +1,11 @@
 /** Texts, each with its FAULT and the place; '@' marks the place and is no part of the text. */
 public final class FaultsTest {
     private static void fault(int kind, String marked) {
-        int place = marked.indexOf('@');
-        String text = marked.substring(0, place) + marked.substring(place + 1);
-        CuckooLodge x = Calls.of("rooms 2;lodger old has 0 1;");
-        Calls.due("lodge <" + text + ">", Calls.tell(x, text), CuckooLodge.NONE);
-        Calls.due("fault(0) of <" + marked + ">", x.fault(0), kind);
-        Calls.due("fault(1) of <" + marked + ">", x.fault(1), place);
-        Calls.due("has(1) behind <" + marked + ">", x.has(1), 1);
+        Calls.fault(kind, marked);
     }
 
     private static void right(int statements, String text) {
-        CuckooLodge x = new CuckooLodge();
-        Calls.due("lodge <" + text + ">", Calls.tell(x, text), statements);
-        Calls.due("fault(0) of <" + text + ">", x.fault(0), 0);
-        Calls.due("fault(1) of <" + text + ">", x.fault(1), CuckooLodge.NONE);
+        Calls.right(statements, text);
     }
 
     private static String times(int n, String s) {
