@@ -1480,18 +1480,17 @@ public final class CuckooLodge {
         }
 
         // Each SLEEPER has just one other ROOM: whoever must move, and where to, is one row from this ROOM on.
+        // A row that goes round never ends, and would be longer than there are ROOMS.
         int movesToFree(State s, int room) {
-            int seen = 0;
             int next = room;
-            for (int count = 0; count <= MOST_ROOMS; count++) {
-                if (((s.shut | seen) >> next & 1) == 1) {
+            for (int count = 0; count < MOST_ROOMS; count++) {
+                if ((s.shut >> next & 1) == 1) {
                     return NONE;
                 }
                 int lodger = s.sleeper[next];
                 if (lodger == NONE) {
                     return count;
                 }
-                seen |= 1 << next;
                 next = plan.otherRoom(lodger, next);
             }
             return NONE;

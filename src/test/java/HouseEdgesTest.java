@@ -358,6 +358,10 @@ public final class HouseEdgesTest {
             dueBench("he stays", x, 0);
             x = Calls.of("rooms 2;knock 100;bench 0;lodger a has 0 1;shut 0;shut 1;");
             due("one who is away, each night anew", x.chance(7), 7);
+            x = Calls.of("rooms 2;knock 100;lodger a has 0 1;rents 7;");
+            x.chance(3);
+            due("then the night is as any other: who came pays", x.has(8), 21);
+            due("and stays", x.lodger(0, 3), 3);
         });
     }
 
@@ -544,6 +548,20 @@ public final class HouseEdgesTest {
             x.shut(4, 1);
             x.shut(5, 1);
             due("one without a room", x.crowd(), 16);
+            // One too many in all, so that there is one crowd alone; a and f are not of it.
+            x = Calls.of("rooms 6;lodger a has 3 4;lodger b has 0 1;lodger c has 1 2;lodger d has 2 0;lodger e has 0 2;lodger f has 4 5;");
+            due("four for three rooms", x.crowd(), 2 + 4 + 8 + 16);
+            x.shut(5, 1);
+            x.shut(4, 1);
+            due("f has no room", x.crowd(), 32);
+            x.shut(5, 0);
+            due("again the four", x.crowd(), 2 + 4 + 8 + 16);
+            // Twice five for four rooms, where a ties two ends that nobody else ties.
+            x = Calls.of("rooms 8;lodger a has 2 3;lodger b has 0 1;lodger c has 1 0;lodger d has 0 2;lodger e has 3 1;"
+                + "lodger f has 6 7;lodger g has 4 5;lodger h has 5 4;lodger i has 4 6;lodger j has 7 5;");
+            due("five for four rooms", x.crowd(), 31);
+            x.shut(2, 1);
+            due("three for two rooms", x.crowd(), 2 + 4 + 8);
         });
         says("of like ones the least bits.", () -> {
             CuckooLodge x = Calls.of("rooms 4;lodger a has 0 1;lodger b has 2 3;lodger c has 2 3;lodger d has 0 1;lodger e has 2 3;lodger f has 0 1;");
@@ -627,6 +645,8 @@ public final class HouseEdgesTest {
             due("a first", x.stepped(2, 0), 2);
             due("the bench is none", Calls.meet(x, 0, 0, 254), NONE);
             due("no such lodger", Calls.meet(x, 0, 0, 3), NONE);
+            Calls.meet(x, 1, 1, 0, 1, 0, 255, 0, 1, 0, 1, 0, 255);
+            due("nobody in a later row, too", x.stepped(2, NONE), 14);
         });
         says("as if a told LODGER who is AWAY CAME now, ahead of these:", () -> {
             CuckooLodge x = Calls.of("rooms 3;lodger a has 0 1;lodger b has 0 2;in a;");
@@ -655,6 +675,13 @@ public final class HouseEdgesTest {
                 CuckooLodge x = Calls.of(text + row[0] + ";");
                 for (int what = 0; what < 3; what++) due("in night " + row[0] + " tells(3, " + what + ")", x.tells(3, what), row[1 + what]);
             }
+            // The same two nights, the last of them 999, then 1000.
+            int[][] late = {{997, 2, 2, 10}, {998, 0, 0, 15}, {999, 0, 0, 15}};
+            for (int[] row : late) {
+                CuckooLodge x = Calls.of(text + row[0] + ";");
+                on(x, 3, row[0] - 768, 0, 0, 0, 0, 0, 0, 2, 0, 0, 0, 1, 0, 255, 0, 0);
+                for (int what = 0; what < 3; what++) due("from night " + row[0] + " tells(3, " + what + ")", x.tells(3, what), row[1 + what]);
+            }
         });
         says("behind which by whose SLEEPER, whoever it is, or nobody, the most of these left are fewest;", () -> {
             CuckooLodge x = Calls.of(ROUND);
@@ -666,6 +693,10 @@ public final class HouseEdgesTest {
             x = Calls.of("rooms 3;lodger a has 0 1;lodger b has 1 2;lodger c has 0 1;in a;in b;");
             // One step: a is left over, nobody is in room 2; more: b is there.
             due("nobody, too", x.tells(2, 2), 39);
+            // Left are 2, 5 and each eighth behind these; of them d is in room 0 by 5, b by 2 now.
+            x = Calls.of("rooms 3;lodger a has 2 1;in a;lodger b has 2 0;in b;lodger c has 0 1;in c;lodger d has 2 0;leaves night=0;");
+            Calls.meet(x, 2, 2, 255);
+            due("from now on, whatever night was met", x.tells(3, 0) * 100 + x.tells(3, 1) * 10 + x.tells(3, 2), 5);
         });
         says("of like ones the first, NIGHT by NIGHT, ROOM by ROOM.", () -> {
             CuckooLodge x = Calls.of(ROUND);

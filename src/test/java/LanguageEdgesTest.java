@@ -18,6 +18,10 @@ public final class LanguageEdgesTest {
         Calls.due(call, got, want);
     }
 
+    private static void due(String call, boolean got, boolean want) {
+        Calls.due(call, got, want);
+    }
+
     private static void fault(int kind, String marked) {
         Calls.fault(kind, marked);
     }
@@ -100,6 +104,9 @@ public final class LanguageEdgesTest {
             due("bench", x.has(9), 2);
             due("steps", x.has(10), 8);
             due("knock", x.odds(0), 4);
+            due("nothing else is told by them", x.has(0) * 10 + x.has(6), 20);
+            x = right(7, "rooms 2;knock 1;knock 0;steps 1;steps 1;bench 0;bench 1;");
+            due("a knock shuts no room", x.has(6), 0);
         });
     }
 
@@ -120,6 +127,9 @@ public final class LanguageEdgesTest {
         });
         says("16 LODGERS);", () -> {
             due("sixteen", right(17, "rooms 2;" + lodgers(16)).has(1), 16);
+            sixteenInARing();
+            sixteenForTen();
+            theLastThree();
             fault(6, "rooms 2;" + lodgers(16) + "@lodger nz has 0 1;");
         });
         says("in NAME (a LODGER, not told so already:", () -> {
@@ -158,6 +168,68 @@ public final class LanguageEdgesTest {
             fault(1, "rooms 2;leaves 1@;");
             fault(1, "rooms 2;rents @all;");
         });
+    }
+
+    private static String name(int lodger) {
+        return "n" + (char) ('a' + lodger);
+    }
+
+    /** Each has his own room and the next one's. */
+    private static void sixteenInARing() {
+        StringBuilder text = new StringBuilder("rooms 16;");
+        for (int i = 0; i < 16; i++) text.append("lodger ").append(name(i)).append(" has ").append(i).append(' ').append((i + 1) % 16).append(";in ").append(name(i)).append(';');
+        CuckooLodge x = right(33, text.toString());
+        due("all sleep", x.has(2), 16);
+        due("the last one, in the last room", x.room(15, 0), 15);
+        due("all pay", x.nights(1), 16);
+        due("all at once", x.most(65535), 16);
+        due("one more than all", x.most(65536), NONE);
+        due("one way round or the other", x.ways(65535), 2);
+        due("nobody is turned away", x.turned(65535), 0);
+        due("no crowd", x.crowd(), NONE);
+        due("all in each other's way", x.clear(15), NONE);
+        due("its image", x.image(), 55);
+        due("where the last one is", x.octet(51), 15);
+        due("the image is one", Calls.on(x, Calls.imageOf(x)), true);
+        x.go(15);
+        due("all but one make way", x.clear(0), 15);
+        due("all rows", x.odds(NONE), 1600);
+        due("the last one's, who does not knock", x.odds(15), 0);
+        x.shut(15, 1);
+        due("sixteen for fifteen rooms", x.crowd(), 65535);
+        due("the least of them", x.turned(65535), 1);
+        due("later, in the last room", x.later(15, 40), NONE);
+        due("ten steps without more", x.come(15), 10);
+    }
+
+    /** Ten in bed, who do not yield, and six on the bench. */
+    private static void sixteenForTen() {
+        StringBuilder text = new StringBuilder("rooms 16;bench 6;");
+        for (int i = 0; i < 16; i++) text.append("lodger ").append(name(i)).append(" has ").append(i % 10).append(' ').append((i + 1) % 10).append(';');
+        for (int i = 0; i < 16; i++) text.append("in ").append(name(i)).append(';');
+        CuckooLodge x = right(35, text + "yields step>0;");
+        due("in bed", x.has(2), 10);
+        for (int k = 0; k < 6; k++) due("bench(" + k + ")", x.bench(k), 10 + k);
+        due("its image", x.image(), 61);
+        due("the last on the bench", x.octet(59), 15);
+        due("its last byte", x.octet(60) == NONE, false);
+        due("no more", x.octet(61), NONE);
+        due("the image is one", Calls.on(x, Calls.imageOf(x)), true);
+        // 0 and 10, 1 and 11 .. have the same rooms: two such pairs that meet are four for three rooms.
+        due("the first crowd", x.crowd(), 1 + 2 + 1024 + 2048);
+    }
+
+    /** The last three lodgers have the last two rooms; whoever comes makes all three go round. */
+    private static void theLastThree() {
+        StringBuilder text = new StringBuilder("rooms 16;steps 40;");
+        for (int i = 0; i < 16; i++) text.append("lodger ").append(name(i)).append(i < 13 ? " has 0 1;" : i == 14 ? " has 15 14;" : " has 14 15;");
+        CuckooLodge x = right(20, text + "in nn;in no;");
+        due("the room that tells", x.tells(15, 1), 14);
+        due("the most that are left", x.tells(15, 2), 14);
+        Calls.meet(x, 0, 14, 15, 0, 15, 14);
+        due("by what was met", x.stepped(15, NONE), 7);
+        due("all steps", x.come(15), 40);
+        for (int k = 0; k < 40; k++) due("kept " + k, x.kept(k, 1) * 100 + x.kept(k, 2), (13 + k % 3) * 100 + 14 + k % 2);
     }
 
     private static void sums() {
@@ -404,6 +476,8 @@ public final class LanguageEdgesTest {
         });
         says("(words and numbers side by side need one).", () -> {
             fault(1, "rooms@2;");
+            fault(1, "rooms@12345;");
+            fault(1, "rooms 2@abcdefg;");
             fault(1, "rooms 2;lodger a@1 has 0 1;");
             fault(1, "rooms 2;lodger a has@0 1;");
             fault(1, "rooms 2;yields 1<2@and all;");
@@ -538,6 +612,12 @@ public final class LanguageEdgesTest {
             fault(5, "rooms 3;rents " + "if([1<".repeat(3) + "if(@[");
             right(2, "rooms 3;rents (((((((1)))))))+(((((((1)))))));");
             right(2, "rooms 3;rents min(((((((1)))))),((((((1)))))));");
+            right(2, "rooms 3;rents if([[[[[[1<2]]]]]],((((((1)))))),((((((1)))))));");
+            fault(5, "rooms 3;rents if([[[[[[1<@(");
+            fault(5, "rooms 3;rents if(all,((((((@(1");
+            fault(5, "rooms 3;rents if(all,1,((((((@(1");
+            fault(5, "rooms 3;rents min(((((((@(1");
+            fault(5, "rooms 3;rents max(1,((((((@(1");
             fault(5, "rooms 3;yields not [(1+min(if([not @(1");
             fault(1, "rooms 3;rents " + "(".repeat(7) + "min@;");
         });

@@ -131,6 +131,17 @@ public final class PromiseEdgesTest {
             due("none of 20", x.end(0), true);
             due("feed behind none", blanks(x), 20);
             due("status(0)", x.status(0), 0);
+            // What stood behind the end is no part of the text, were it the rest of a word or a number.
+            String text = "rooms 16;lodger ab has 11 12;in ab;rents 10+20;";
+            for (int n = 0; n <= text.length(); n++) {
+                x = new CuckooLodge();
+                Calls.feed(x, text.chars().toArray());
+                x.end(n);
+                CuckooLodge y = new CuckooLodge();
+                due("cut to " + n, x.lodge(), Calls.tell(y, text.substring(0, n)));
+                due("cut to " + n + ": fault(0)", x.fault(0), y.fault(0));
+                due("cut to " + n + ": fault(1)", x.fault(1), y.fault(1));
+            }
         });
         says("false, refused (0), if it has not so many,", () -> {
             CuckooLodge x = new CuckooLodge();
@@ -195,6 +206,18 @@ public final class PromiseEdgesTest {
             x.go(0);
             Calls.tell(x, ROUND);
             dueHas("the same text", x, 2, 3, 2, 0, 1, 0, 0, 0, 0, 1, 10);
+            due("still no knock", x.odds(2), 0);
+            due("still no rents", x.purse(2), 4);
+            // Long texts one behind the other: none is in the way of a later one.
+            for (int k = 0; k < 6; k++) {
+                due("a long text", Calls.tell(x, "rooms 9;lodger a has 0 1;in a;yields all;leaves not all;rents 0" + "+1".repeat(60) + "+0".repeat(600) + ";"), 6);
+                due("its rents", x.purse(1), 60);
+            }
+            Calls.tell(x, "rooms 9;lodger a has 7 8;lodger b has 7 8;lodger c has 7 8;in a;in b;in c;steps 1;");
+            Calls.tell(x, "rooms 9;lodger a has 0 1;lodger b has 0 1;");
+            for (int r = 0; r < 9; r++) due("nobody in room " + r, x.room(r, 0), NONE);
+            due("nobody on the bench", x.bench(0), NONE);
+            due("both are away", x.chain(0, NONE) + x.chain(1, NONE), 0);
         });
         says("nothing is KEPT or MET,", () -> {
             CuckooLodge x = Calls.of(ROUND);
@@ -764,6 +787,10 @@ public final class PromiseEdgesTest {
             CuckooLodge x = Calls.of(ROUND);
             Calls.meet(x, 0, 0, 255);
             for (int what = 0; what < 3; what++) due("tells(2, " + what + ")", x.tells(2, what), NONE);
+            Calls.meet(x, 0, 0, 2);
+            due("some left", x.tells(2, 1), 1);
+            Calls.meet(x, 0, 0, 255);
+            for (int what = 0; what < 3; what++) due("again tells(2, " + what + ")", x.tells(2, what), NONE);
         });
         says("when there is none such,", () -> {
             for (int lodger : new int[] {-1, 3, LEAST, GREATEST}) {
@@ -960,6 +987,19 @@ public final class PromiseEdgesTest {
                 due("nothing is kept " + k, x.has(11), 0);
                 due("no act is left " + k, x.has(13), 0);
             }
+            // What is kept is as it was, too, with those that had fallen out of the last 40.
+            CuckooLodge kept = Calls.of(ROUND + "steps 30;bench 0;");
+            kept.nights(3);
+            kept.come(2);
+            kept.nights(1);
+            kept.come(2);
+            due("forty", kept.has(11), 40);
+            kept.undo();
+            due("thirty again", kept.has(11), 30);
+            for (int k = 0; k < 30; k++) due("kept(" + k + ", .)", kept.kept(k, 0) * 100 + kept.kept(k, 1) * 10 + kept.kept(k, 2), 300 + k % 3 * 10 + k % 2);
+            kept.undo();
+            kept.undo();
+            due("none again", kept.has(11), 0);
         });
         says("(but the seed): true;", () -> {
             CuckooLodge x = Calls.of(ROUND);
