@@ -47,7 +47,7 @@ public final class HouseEdgesTest {
     private static void whoIsWhere() {
         says("A LODGER is a SLEEPER in one of his ROOMS, on the BENCH, or AWAY;", () -> {
             CuckooLodge x = Calls.of("rooms 3;bench 1;steps 2;knock 90;lodger a has 0 1;lodger b has 1 2;lodger c has 2 0;lodger d has 0 2;leaves nights>3;");
-            for (int n = 0; n < 25; n++) {
+            for (int n = 0; n < 20; n++) {
                 x.chance(1);
                 for (int l = 0; l < 4; l++) {
                     int room = x.lodger(l, 2);

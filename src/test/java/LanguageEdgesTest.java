@@ -200,6 +200,10 @@ public final class LanguageEdgesTest {
         due("the least of them", x.turned(65535), 1);
         due("later, in the last room", x.later(15, 40), NONE);
         due("ten steps without more", x.come(15), 10);
+        x = right(34, text + "leaves room=15 or empty=1;");
+        // The last one's room is 15; with him gone nobody is left whose turn it would be.
+        x.nights(1);
+        due("the last one leaves", x.has(2) * 100 + x.lodger(15, 2), 1500 + NONE);
     }
 
     /** Ten in bed, who do not yield, and six on the bench. */
@@ -620,6 +624,12 @@ public final class LanguageEdgesTest {
             fault(5, "rooms 3;rents max(1,((((((@(1");
             fault(5, "rooms 3;yields not [(1+min(if([not @(1");
             fault(1, "rooms 3;rents " + "(".repeat(7) + "min@;");
+            // At each depth as much as can be waits for what stands inside.
+            for (String inmost : new String[] {"1<2", "2<1"}) {
+                String test = inmost;
+                for (int k = 0; k < 6; k++) test = "1<0 or 1=1 and 3<2+1*if(" + test + ",5,0)";
+                dueRents("4+3*if(" + test + ",7,1)", inmost.equals("1<2") ? 25 : 7);
+            }
         });
         says("(not until its FACT ends), at it;", () -> {
             String six = "not ".repeat(6);

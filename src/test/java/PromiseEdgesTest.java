@@ -209,7 +209,8 @@ public final class PromiseEdgesTest {
             due("still no knock", x.odds(2), 0);
             due("still no rents", x.purse(2), 4);
             // Long texts one behind the other: none is in the way of a later one.
-            for (int k = 0; k < 6; k++) {
+            x = new CuckooLodge();
+            for (int k = 0; k < 5; k++) {
                 due("a long text", Calls.tell(x, "rooms 9;lodger a has 0 1;in a;yields all;leaves not all;rents 0" + "+1".repeat(60) + "+0".repeat(600) + ";"), 6);
                 due("its rents", x.purse(1), 60);
             }

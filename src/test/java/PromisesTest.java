@@ -95,7 +95,8 @@ public final class PromisesTest {
         due("4 the latest of many", Calls.tell(x, "rooms 5;"), 1);
         dueHas("4 bare", x, 5, 0, 0, 0, 0, 5, 0, 0, 0, 1, 10, 0, 0, 0, 77);
         // A long text many times over: nothing of an older one is in the way, and what it told is gone.
-        for (int i = 0; i < 12; i++) {
+        x = new CuckooLodge();
+        for (int i = 0; i < 5; i++) {
             due("4 a long text", Calls.tell(x, "rooms 2;lodger a has 0 1;in a;knock 9;shut 1;rents 0" + "+1".repeat(60) + "+0".repeat(600) + ";"), 6);
             due("4 its rent", x.purse(1), 60);
         }
