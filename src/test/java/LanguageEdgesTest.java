@@ -115,6 +115,11 @@ public final class LanguageEdgesTest {
             CuckooLodge x = right(3, "rooms 3;lodger a has 0 2;lodger b has 2 0;");
             due("the least", x.lodger(0, 0), 0);
             due("the greatest", x.lodger(0, 1), 2);
+            fault(1, "rooms 3;lodger@;");
+            fault(1, "rooms 3;lodger a@;");
+            fault(1, "rooms 3;lodger a has@;");
+            fault(1, "rooms 3;lodger a has 0@;");
+            fault(1, "rooms 3;lodger a @0 1;");
             fault(4, "rooms 3;lodger a has @3 0;");
             fault(4, "rooms 3;lodger a has 0 @3;");
             fault(4, "rooms 3;lodger a has 0 @0;");
@@ -134,6 +139,8 @@ public final class LanguageEdgesTest {
         });
         says("in NAME (a LODGER, not told so already:", () -> {
             right(3, "rooms 2;lodger a has 0 1;in a;");
+            fault(1, "rooms 2;lodger a has 0 1;in@;");
+            fault(1, "rooms 2;lodger a has 0 1;in @0;");
             fault(3, "rooms 2;lodger a has 0 1;in @b;");
             fault(3, "rooms 2;lodger a has 0 1;in a;in @a;");
         });
@@ -153,6 +160,7 @@ public final class LanguageEdgesTest {
             due("nobody leaves ahead of a night", right(8, three + "leaves all;").has(2), 2);
         });
         says("shut N (a ROOM that is not SHUT);", () -> {
+            fault(1, "rooms 3;shut@;");
             CuckooLodge x = right(4, "rooms 3;shut 0;shut 2;shut 1;");
             due("all of them", x.has(6), 3);
             fault(4, "rooms 3;shut @3;");
@@ -164,6 +172,9 @@ public final class LanguageEdgesTest {
             fault(6, "rooms 2;yields all;@yields all;");
             fault(6, "rooms 2;leaves all;bench 1;@leaves all;");
             fault(6, "rooms 2;rents 1;@rents 1;");
+            fault(1, "rooms 2;yields@;");
+            fault(1, "rooms 2;leaves@;");
+            fault(1, "rooms 2;rents@;");
             fault(1, "rooms 2;yields 1@;");
             fault(1, "rooms 2;leaves 1@;");
             fault(1, "rooms 2;rents @all;");
@@ -289,6 +300,8 @@ public final class LanguageEdgesTest {
         });
         says("if ( TEST , SUM , SUM )", () -> {
             dueRents("if(1<2 and all,3+4,5*6)", 7);
+            fault(1, "rooms 2;rents if@;");
+            fault(1, "rooms 2;rents if@+1;");
             fault(1, "rooms 2;rents if @1;");
             fault(1, "rooms 2;rents if(@);");
             fault(1, "rooms 2;rents if(1@,2,3);");
@@ -303,6 +316,8 @@ public final class LanguageEdgesTest {
     }
 
     private static void twoSums(String word) {
+        fault(1, "rooms 2;rents " + word + "@;");
+        fault(1, "rooms 2;rents " + word + "@+1;");
         fault(1, "rooms 2;rents " + word + " @1;");
         fault(1, "rooms 2;rents " + word + "(@);");
         fault(1, "rooms 2;rents " + word + "(1@);");
