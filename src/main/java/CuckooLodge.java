@@ -175,11 +175,7 @@ public final class CuckooLodge {
         if (!plan.isLodger(lodger) || k < 0 || k >= Words.LONGEST_WORD) {
             return NONE;
         }
-        int rest = plan.name[lodger];
-        for (int i = Words.LONGEST_WORD - 1; i > k; i--) {
-            rest = rest / Words.LETTER_BASE;
-        }
-        return rest % Words.LETTER_BASE;
+        return Words.letterOf(plan.name[lodger], k);
     }
 
     public int room(int room, int what) {
@@ -618,7 +614,7 @@ public final class CuckooLodge {
     private static final class Words {
         static final int LONGEST_WORD = 6;
         static final int LONGEST_NUMBER = 4;
-        // A word is one number: six letters to this base, 0 behind its last one.
+        // A word is one number to this base. No letter is 0 in it, so unlike words are unlike numbers.
         static final int LETTER_BASE = 27;
 
         static final int END = 0;
@@ -668,11 +664,8 @@ public final class CuckooLodge {
 
         Words() {
             int word = 0;
-            int begun = 0;
             for (int i = 0; i < OWN_WORDS.length() && word < OWN_COUNT; i++) {
                 if (OWN_WORDS.charAt(i) == ' ') {
-                    own[word] = padded(own[word], i - begun);
-                    begun = i + 1;
                     word++;
                 } else {
                     own[word] = own[word] * LETTER_BASE + OWN_WORDS.charAt(i) - 'a' + 1;
@@ -680,12 +673,16 @@ public final class CuckooLodge {
             }
         }
 
-        private static int padded(int word, int letters) {
-            int result = word;
-            for (int i = letters; i < LONGEST_WORD; i++) {
-                result *= LETTER_BASE;
+        static int letterOf(int word, int k) {
+            int letters = 0;
+            for (int rest = word; rest > 0 && letters < LONGEST_WORD; rest /= LETTER_BASE) {
+                letters++;
             }
-            return result;
+            int upToIt = k < letters ? word : 0;
+            for (int i = letters - 1; i > k; i--) {
+                upToIt /= LETTER_BASE;
+            }
+            return upToIt % LETTER_BASE;
         }
 
         void begin(int[] bytes, int count) {
@@ -705,13 +702,14 @@ public final class CuckooLodge {
             start = at;
             faultAt = at;
             value = 0;
-            which = NONE;
             if (at >= length) {
                 kind = END;
             } else if (isLetter(text[at])) {
-                readWord();
+                kind = WORD;
+                readRun('a', 'z', 1, LONGEST_WORD);
             } else if (isDigit(text[at])) {
-                readNumber();
+                kind = NUMBER;
+                readRun('0', '9', 0, LONGEST_NUMBER);
             } else {
                 kind = SIGN;
                 value = text[at];
@@ -721,38 +719,30 @@ public final class CuckooLodge {
                 kind = BAD;
                 faultAt = start;
             }
+            which = kind == WORD ? ownWord(value) : NONE;
         }
 
-        private void readWord() {
-            kind = WORD;
-            while (at < length && isLetter(text[at])) {
-                if (at - start == LONGEST_WORD) {
+        /** 'worth' is what the first of these signs counts in the word's or number's value. */
+        private void readRun(int first, int last, int worth, int longest) {
+            int base = last - first + 1 + worth;
+            while (at < length && text[at] >= first && text[at] <= last) {
+                if (at - start == longest) {
                     kind = BAD;
                     faultAt = at;
                     return;
                 }
-                value = value * LETTER_BASE + text[at] - 'a' + 1;
+                value = value * base + text[at] - first + worth;
                 at++;
             }
-            value = padded(value, at - start);
+        }
+
+        private int ownWord(int word) {
             for (int i = 0; i < OWN_COUNT; i++) {
-                if (own[i] == value) {
-                    which = i;
+                if (own[i] == word) {
+                    return i;
                 }
             }
-        }
-
-        private void readNumber() {
-            kind = NUMBER;
-            while (at < length && isDigit(text[at])) {
-                if (at - start == LONGEST_NUMBER) {
-                    kind = BAD;
-                    faultAt = at;
-                    return;
-                }
-                value = value * 10 + text[at] - '0';
-                at++;
-            }
+            return NONE;
         }
 
         private static boolean isLetter(int sign) {
